@@ -966,9 +966,7 @@ public final class TradeWords {
             System.arraycopy(now, 0, next, 0, now.length);
             for (int x = 0; x <= a; x++) {
                 for (int y = 0; y <= b; y++) {
-                    if (inStand(x, y) > 0) {
-                        part(x, y);
-                    }
+                    part(x, y);
                 }
             }
             System.arraycopy(next, 0, now, 0, now.length);
@@ -997,24 +995,25 @@ public final class TradeWords {
             return x * WIDTH + y;
         }
 
-        /** Both own WORDS meet in (a - x)(b - y) pairs, both changed ones in x y: only these differ. */
+        /** Both own WORDS meet in (a - x)(b - y) pairs, both changed ones in x y: in no others WORDS differ. */
         private void part(int x, int y) {
-            long own = inStand(x, y) * (a - x) * (b - y);
-            long changed = inStand(x, y) * x * y;
+            int from = place(x, y);
+            long own = now[from] * ((a - x) * (b - y));
+            long changed = now[from] * (x * y);
             if (own > 0) {
-                go(x, y, place(x + 1, y), own * zeroHears);
-                go(x, y, place(x, y + 1), own * oneHears);
+                go(from, place(x + 1, y), own * zeroHears);
+                go(from, place(x, y + 1), own * oneHears);
             }
             if (changed > 0) {
-                go(x, y, place(x - 1, y), changed * zeroHears);
-                go(x, y, place(x, y - 1), changed * oneHears);
+                go(from, place(x - 1, y), changed * zeroHears);
+                go(from, place(x, y - 1), changed * oneHears);
             }
         }
 
-        private void go(int x, int y, int to, long parts) {
+        private void go(int from, int to, long parts) {
             long many = parts / (100L * a * b);
             if (many > 0) {
-                next[place(x, y)] -= many;
+                next[from] -= many;
                 next[to] += many;
                 moved = true;
             }
