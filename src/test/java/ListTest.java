@@ -70,6 +70,7 @@ public final class ListTest {
         due("none", x.joined(5), TradeWords.NONE);
         due("without ear 0", x.joined(6), 1);
         due("three unlike: the lowest", x.joined(7), 0);
+        due("an ear that wrote none is FAR from nobody", Checks.laid("e1,0,aaaaaa;e2,0,b;").joined(0), 1);
         due("joined(-1)", x.joined(-1), TradeWords.BAD);
         due("joined(8)", x.joined(8), TradeWords.BAD);
         due("an empty beach", new TradeWords().joined(0), TradeWords.NONE);

@@ -218,6 +218,8 @@ public final class MeetingTest {
         x.set(0, 1, 2);
         // 4 say it; 33333 and 2857 one less, 6666 and 14285 one more
         due("use, cut once", x.use(0, 1), (4 * 1000000 - 33333 - 2857 + 6666 + 14285) / 1000);
+        due("all take word 1", Checks.laid(TWO_WORDS + "n1,1;k10,0;o0;").use(0, 1), 0);
+        due("a tenth says one more", Checks.laid(TWO_WORDS + "n8,8;o10;k0,1;").use(0, 1), 8100);
         x.set(0, 0, 7);
         due("all say word 0", x.use(0, 200), 10000);
         x.set(0, 3, 0);

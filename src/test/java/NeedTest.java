@@ -18,6 +18,12 @@ public final class NeedTest {
         dueSet("u345;j3,6,7;j4,6,7;j5,6,7;", 0b11000000);
         // 2 by 0 and 1, 3 by 2 and 0: what is itself only joined can't be joined again
         dueSet("u0123;j2,0,1;j3,0,2;", 0b111);
+        // what an earlier text told is gone
+        TradeWords again = Checks.laid("u012;j2,0,1;");
+        again.wipe();
+        Checks.write(again, "u012;");
+        again.lay();
+        CHECKS.due("fewest(0) of another text", again.fewest(0), 0b111);
         // one meaning in two ways
         dueSet("u012;j0,4,5;j0,1,2;", 0b110);
         dueSet("u012;j0,1,2;j0,4,5;", 0b110);

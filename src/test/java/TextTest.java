@@ -88,12 +88,17 @@ public final class TextTest {
         due("the STAND is as before", x.stand(0, 0), 1);
         due("KEPT is as before", x.count(4), 1);
         due("lay() of none", x.lay(), 0);
+        Checks.write(x, "o5;o5;");
+        x.wipe();
+        Checks.write(x, "o5");
+        due("what was wiped is not read again", x.fault(), 0);
+        due("nor laid", x.lay(), TradeWords.NO);
         due("A of none", x.count(5), 4);
     }
 
     private static void goodTexts() {
         String[] good = {"w0,0,a;", "w1,7,abcdef;", "w0,3,pppppp;", "s0,a;", "s1,abcdefghijklmnop;", "s1,p;", "rab;",
-            "rpo;", "n1,1;", "n8,8;", "k0,0;", "k10,10;", "o0;", "o10;", "g1;", "g99;", "j0,1,2;", "j7,6,5;", "u0;", "u7;",
+            "rpo;", "n1,1;", "n8,8;", "k0,0;", "k10,10;", "o0;", "o10;", "g1;", "g99;", "j0,1,2;", "j7,6,5;", "j1,7,0;", "j5,0,7;", "u0;", "u7;",
             "u01234567;", "e0,0,a;", "e2,7,ponmlk;"};
         for (String text : good) {
             due("fault() of " + text, Checks.faultOf(text), TradeWords.NONE);
@@ -109,7 +114,7 @@ public final class TextTest {
             "n1,1,1;", "n10,1;", "k11,0;", "k0,11;", "k5;", "k,5;", "o11;", "o;", "o5,;", "o5,5;", "o-1;", "g0;", "g00;",
             "g100;", "g;", "j0,0,1;", "j0,1,1;", "j0,1,0;", "j8,0,1;", "j0,8,1;", "j0,1,8;", "j0,1;", "j0,1,2,3;", "u;",
             "u10;", "u00;", "u8;", "u0,1;", "u012345678;", "e3,0,a;", "e0,8,a;", "e0,0,;", "e0,0,abcdefg;", "e0,0;",
-            "o005;", "w000,0,a;", "o5", "o", "u0"};
+            "s0,`;", "s0,`a;", "u/;", "u/0;", "u:;", "w0,0,`;", "r`a;", "ra`;", "o/;", "o:;", "o005;", "w000,0,a;", "o5", "o", "u0"};
         for (String text : faulty) {
             due("fault() of " + text, Checks.faultOf(text), 0);
             due("fault() of w0,0,ab;" + text, Checks.faultOf("w0,0,ab;" + text), 8);
@@ -204,6 +209,10 @@ public final class TextTest {
         due("exchanges of others stay", Checks.laid("w0,0,a;s1,bc;rab;rdc;").word(0, 0, 1, 0), 1);
         due("last o", Checks.laid("w0,0,a;w1,0,b;n1,1;k10,10;o10;o0;").won(0, 1, 1), 1000000);
         due("last k", Checks.laid("w0,0,a;w1,0,b;n1,1;o0;k10,10;k0,0;").won(0, 1, 1), 0);
+        due("k and o without: 25 of a hundred", Checks.laid("w0,0,a;w1,0,b;n1,1;").won(0, 1, 0), 250000);
+        due("o without", Checks.laid("w0,0,a;w1,0,b;n1,1;k10,10;").won(0, 1, 1), 500000);
+        due("g without: 67 is not ALIKE", Checks.laid("w0,0,aab;w1,0,aac;").tongue(0), 0);
+        due("g without: 75 is", Checks.laid("w0,0,aaab;w1,0,aaac;").tongue(0), 1);
         due("last g", Checks.laid("w0,0,aab;w1,0,aac;g68;g67;").tongue(0), 1);
         due("last g", Checks.laid("w0,0,aab;w1,0,aac;g67;g68;").tongue(0), 0);
     }

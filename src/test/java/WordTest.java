@@ -127,6 +127,8 @@ public final class WordTest {
         due("lost(0)", x.lost(0), 1 << 15);
         // of people 1: d becomes p, o becomes k, which 0 can't say
         due("lost(1)", x.lost(1), 1 << 14);
+        due("each sound of the first meaning", Checks.laid("s1,p;w0,0,abcdef;").lost(0), 0b111111);
+        due("and of the last", Checks.laid("s0,p;w1,7,gap;").lost(1), 0b1000001);
         due("only of words that are", Checks.laid("s0,a;s1,b;").lost(0), 0);
         due("both() of one", Checks.laid("s0,ap;").both(), 0x8001);
         due("both() of none", Checks.laid("s0,ap;s1,bcdefghijklmno;").both(), 0);
