@@ -277,7 +277,8 @@ public final class TradeWords {
             return BAD;
         }
         int best = NONE;
-        int least = Integer.MAX_VALUE;
+        // more than the others can be FAR together
+        int least = EARS * LONGEST_WORD;
         for (int ear = 0; ear < EARS; ear++) {
             if (laid.heardBy(ear, m) != Word.EMPTY) {
                 int apart = apartFromOtherEars(ear, m);
@@ -630,7 +631,8 @@ public final class TradeWords {
         }
 
         private boolean readJoined() {
-            return readNumbers(MEANINGS - 1, MEANINGS - 1) && passes(',') && readNumber(2, 0, MEANINGS - 1)
+            return readNumber(0, 0, MEANINGS - 1) && passes(',') && readNumber(1, 0, MEANINGS - 1) && passes(',')
+                && readNumber(2, 0, MEANINGS - 1)
                 && numbers[0] != numbers[1] && numbers[0] != numbers[2] && numbers[1] != numbers[2];
         }
 

@@ -59,8 +59,9 @@ public final class ChildrenTest {
         due("even(400, 2)", x.even(400, 2), 3);
         due("even(600, 3)", x.even(600, 3), 2);
         for (int s = 0; s <= 1000; s++) {
+            TradeWords fresh = new TradeWords();
             for (int k = 1; k <= 3; k++) {
-                due("even(" + s + ", " + k + ")", x.even(s, k), new Model().even(s, k));
+                due("even(" + s + ", " + k + ")", fresh.even(s, k), new Model().even(s, k));
             }
         }
     }

@@ -56,12 +56,13 @@ public final class FaceTest {
     }
 
     private static void noCallThrows(String text) throws ReflectiveOperationException {
-        TradeWords x = Checks.laid(text);
         for (Method method : TradeWords.class.getMethods()) {
             if (method.getDeclaringClass() != TradeWords.class) continue;
             int many = method.getParameterCount();
             int all = (int) Math.pow(EDGES.length, many);
+            TradeWords x = null;
             for (int k = 0; k < all; k++) {
+                if (k % 400 == 0) x = Checks.laid(text);
                 Object[] numbers = new Object[many];
                 int rest = k;
                 for (int place = 0; place < many; place++) {

@@ -3,7 +3,9 @@ import java.util.Random;
 /** Runs of drawn calls, with drawn texts, answered by TradeWords and by the model alike. */
 public final class RandomRunsTest {
     private static final int RUNS = 1500;
-    private static final int CALLS = 130;
+    private static final int SHORT = 200;
+    /** An object answers 512 calls; what it answers later is free. */
+    private static final int LONG = 512;
     private static final int[] EDGES = {Integer.MIN_VALUE, -5, -2, -1, 0, 1, 2, 3, 5, 6, 7, 8, 9, 10, 50, 99, 100, 101,
         199, 200, 201, 950, 1000, 1001, 9999, 10000, Integer.MAX_VALUE};
 
@@ -12,11 +14,14 @@ public final class RandomRunsTest {
     private final TradeWords x = new TradeWords();
     private final Model model = new Model();
     private final String run;
+    private final int most;
+    private int calls;
 
     private RandomRunsTest(int seed, Checks checks) {
         this.random = new Random(seed);
         this.checks = checks;
         this.run = "run " + seed + ": ";
+        this.most = seed % 3 == 0 ? LONG : SHORT;
     }
 
     public static void main(String[] args) {
@@ -28,11 +33,12 @@ public final class RandomRunsTest {
     }
 
     private void go() {
-        for (int k = 0; k < CALLS; k++) {
-            if (k % 40 == 0) {
+        for (int k = 0; calls < most; k++) {
+            if (k % 60 == 0) {
                 tellText();
+            } else {
+                call();
             }
-            call();
         }
     }
 
@@ -47,13 +53,15 @@ public final class RandomRunsTest {
         for (int k = 0; faulty && text.length() > 0 && k < 2; k++) {
             spoil(text);
         }
-        for (int k = 0; k < text.length(); k += 8) {
+        for (int k = 0; k < text.length() && calls < most - 2; k += 8) {
             String part = text.substring(k, Math.min(text.length(), k + 8));
             long v = Checks.value(part);
             due("write(" + part + ")", x.write(part.length(), v), model.write(part.length(), v));
         }
-        due("fault() of " + text, x.fault(), model.fault());
-        due("lay() of " + text, x.lay(), model.lay());
+        if (calls < most - 1) {
+            due("fault() of " + text, x.fault(), model.fault());
+            due("lay() of " + text, x.lay(), model.lay());
+        }
     }
 
     private void spoil(StringBuilder text) {
@@ -132,6 +140,7 @@ public final class RandomRunsTest {
     }
 
     private void due(String call, long got, long want) {
+        calls++;
         checks.due(run + call, got, want);
     }
 
@@ -159,7 +168,8 @@ public final class RandomRunsTest {
     }
 
     private void meetingCall() {
-        int m = in(0, 7), n = in(0, random.nextInt(4) == 0 ? 200 : 30), p = in(0, 1), q = in(1, 100), a = in(0, 4), b = in(0, 4);
+        int m = in(0, 7), n = in(0, random.nextInt(4) == 0 ? 200 : 30), p = in(0, 1), q = in(1, 100);
+        int most = random.nextInt(3) == 0 ? 8 : 4, a = in(0, most), b = in(0, most);
         switch (random.nextInt(12)) {
             case 0: due("stand(" + m + "," + p + ")", x.stand(m, p), model.stand(m, p)); break;
             case 1: case 2: due("set(" + m + "," + a + "," + b + ")", x.set(m, a, b), model.set(m, a, b)); break;
