@@ -21,6 +21,7 @@ public final class EdgeTest {
         wonInOneStandAlone();
         soonJustInTime();
         useFromNoneToAll();
+        useCutByTheLastOne();
         tradersAllSayTheirOwn();
         readyFromNoneToTen();
         summersOfOneOrAll();
@@ -292,6 +293,29 @@ public final class EdgeTest {
         due("6 or 7 say WORD 0: 6857.143", up.use(0, 1), 6857);
     }
 
+    /** USE, where one more of a million would make one more thousand. */
+    private static void useCutByTheLastOne() {
+        int found = 0;
+        for (int a = 1; a <= 8; a++) {
+            for (int b = 1; b <= 8; b++) {
+                TradeWords x = Checks.laid(TWO_WORDS + "n" + a + "," + b + ";o3;k7,2;");
+                long[][] all = from(a, b, 0, 0);
+                for (int n = 0; n <= 100; n++) {
+                    long sum = 0;
+                    for (int i = 0; i <= a; i++) {
+                        for (int j = 0; j <= b; j++) {
+                            sum += all[i][j] * (a - i + j);
+                        }
+                    }
+                    found += sum % 1000 == 999 ? 1 : 0;
+                    due("USE of " + a + "," + b + " behind " + n, x.use(0, n), sum / 1000);
+                    all = step(all, 3, 7, 2);
+                }
+            }
+        }
+        due("there is one with 999 behind the thousands", found > 0 ? 1 : 0, 1);
+    }
+
     private static void tradersAllSayTheirOwn() {
         for (int q = 1; q <= 100; q++) {
             TradeWords x = Checks.laid(TWO_WORDS + "n8,8;k10,10;o4;");
@@ -300,6 +324,11 @@ public final class EdgeTest {
             due("WORD 1 by one of each, 60 of a hundred: " + q, x.traders(0, 200, 1, q), q <= 60 ? 1 : NONE);
             due("none behind no MEETING: " + q, x.traders(0, 0, 0, q), NONE);
         }
+        TradeWords asked = Checks.laid(TWO_WORDS + "n8,8;k10,10;o4;");
+        due("what was asked before", asked.won(0, 1, 0), 0);
+        due("does not matter to TRADERS", asked.traders(0, 1, 0, 40), 1);
+        due("nor to what is asked behind it", asked.won(0, 1, 0), 0);
+        due("nor to READY", asked.ready(0, 1, 0, 1), NONE);
         TradeWords alike = Checks.laid("w0,0,a;w1,0,a;k10,10;o0;");
         due("ALIKE: all stay", alike.traders(0, 200, 1, 1), NONE);
     }

@@ -17,6 +17,7 @@ public final class LastOneTest {
         speaks();
         alikeFrom();
         withoutAgain();
+        onlyTheLastText();
         everyOneOfJoinedAndNeeds();
         told();
         CHECKS.end();
@@ -202,6 +203,37 @@ public final class LastOneTest {
         x.wipe();
         due("lay() of the empty text", x.lay(), 0);
         due("is as a new object", State.of(x).equals(State.of(new TradeWords())) ? 1 : 0, 1);
+    }
+
+    /** Of three texts, one behind the other, the last one without a FAULT is LAID, and nothing of the others is left. */
+    private static void onlyTheLastText() {
+        String[] texts = {"", "w0,0,abc;w1,0,abd;w0,5,c;s0,a;s1,b;rab;n1,2;k0,0;o0;g1;j0,1,2;u07;e0,0,abc;e2,7,b;",
+            "w0,0,ab;w1,0,ba;w0,7,k;w1,7,c;s1,abc;rkc;n3,2;j7,0,1;u017;e1,0,ab;", "w0,3,p;w1,3,o;n8,8;e1,3,p;u6;u5;j5,4,3;z"};
+        for (String first : texts) {
+            for (String second : texts) {
+                for (String third : texts) {
+                    dueLastText(first, second, third);
+                }
+            }
+        }
+    }
+
+    private static void dueLastText(String... texts) {
+        TradeWords x = new TradeWords();
+        TradeWords fresh = new TradeWords();
+        for (String text : texts) {
+            x.wipe();
+            Checks.writeEights(x, text);
+            x.fault();
+            if (x.lay() != TradeWords.NO) {
+                fresh = Checks.laid(text);
+            }
+            x.set(0, 1, 1);
+            fresh.set(0, 1, 1);
+        }
+        fresh.wipe();
+        Checks.writeEights(fresh, texts[texts.length - 1]);
+        due("only the last text: " + String.join(" ", texts), State.of(x).equals(State.of(fresh)) ? 1 : 0, 1);
     }
 
     /** Of j and u not the last one counts but all. */
