@@ -182,7 +182,7 @@ public final class TradeWords {
         if (!laid.isTold(m)) {
             return NO;
         }
-        takeHabits(m);
+        crowd.habits(isAlike(m), laid.speaksOfTen(), laid.takesOfTen(0), laid.takesOfTen(1));
         for (int t = 1; t <= MOST_TRADERS; t++) {
             crowd.gather(t, t);
             crowd.begin(0, 0);
@@ -204,8 +204,7 @@ public final class TradeWords {
         boolean alike = isAlike(m);
         crowd.gather(laid.tradersOf(0), laid.tradersOf(1));
         for (int r = 0; r <= TEN; r++) {
-            int takes = alike ? 0 : r;
-            crowd.habits(laid.speaksOfTen(), takes, takes);
+            crowd.habits(alike, laid.speaksOfTen(), r, r);
             crowd.begin(stands.of(m, 0), stands.of(m, 1));
             crowd.meet(n);
             if (crowd.allSaying(p) >= q * HUNDREDTH_OF_MILLION) {
@@ -433,14 +432,8 @@ public final class TradeWords {
         return likeOfMeaning(m) >= laid.alikeFrom();
     }
 
-    /** A crowd for an ALIKE MEANING takes nothing: then all stay, as the document asks. */
-    private void takeHabits(int m) {
-        boolean alike = isAlike(m);
-        crowd.habits(laid.speaksOfTen(), alike ? 0 : laid.takesOfTen(0), alike ? 0 : laid.takesOfTen(1));
-    }
-
     private void startCrowdAsNow(int m) {
-        takeHabits(m);
+        crowd.habits(isAlike(m), laid.speaksOfTen(), laid.takesOfTen(0), laid.takesOfTen(1));
         crowd.gather(laid.tradersOf(0), laid.tradersOf(1));
         crowd.begin(stands.of(m, 0), stands.of(m, 1));
     }
@@ -452,8 +445,8 @@ public final class TradeWords {
 
     /** One MEETING of a summer; the MEANING is TOLD and not ALIKE. */
     private void meetByDraw(int z, int t, int m) {
-        boolean zeroSaysOther = draw(z, t, 2, m) % laid.tradersOf(0) < stands.of(m, 0);
-        boolean oneSaysOther = draw(z, t, 3, m) % laid.tradersOf(1) < stands.of(m, 1);
+        boolean zeroSaysOther = saysOther(draw(z, t, 2, m), laid.tradersOf(0), stands.of(m, 0));
+        boolean oneSaysOther = saysOther(draw(z, t, 3, m), laid.tradersOf(1), stands.of(m, 1));
         // only one of them having changed over means that both say the same WORD
         if (zeroSaysOther != oneSaysOther) {
             return;
@@ -462,6 +455,11 @@ public final class TradeWords {
         if (draw(z, t, 4, m) % TEN < laid.takesOfTen(hearer)) {
             stands.change(m, hearer, zeroSaysOther ? -1 : 1);
         }
+    }
+
+    /** Whether the one that is met, of all traders of a people, is one of those that say the other's WORD. */
+    private static boolean saysOther(int drawn, int traders, int others) {
+        return traders > 0 && drawn % traders < others;
     }
 
     private int tongueBits(int p) {
@@ -492,7 +490,6 @@ public final class TradeWords {
         return sum;
     }
 
-    /** s is 0 to 1000, so one of both powers is above 0. */
     private static int nextGeneration(int s, int k) {
         long say = 1;
         long sayNot = 1;
@@ -500,7 +497,31 @@ public final class TradeWords {
             say *= s;
             sayNot *= 1000 - s;
         }
-        return (int) (say * 1000 / (say + sayNot));
+        long all = say + sayNot;
+        return all > 0 ? (int) (say * 1000 / all) : 0;
+    }
+
+    /** Rows of numbers, each place looked at before it is used; 0, where there is none. */
+    private static final class Row {
+        static int at(int[] row, int place) {
+            return place >= 0 && place < row.length ? row[place] : 0;
+        }
+
+        static void put(int[] row, int place, int value) {
+            if (place >= 0 && place < row.length) {
+                row[place] = value;
+            }
+        }
+
+        static long at(long[] row, int place) {
+            return place >= 0 && place < row.length ? row[place] : 0;
+        }
+
+        static void add(long[] row, int place, long more) {
+            if (place >= 0 && place < row.length) {
+                row[place] += more;
+            }
+        }
     }
 
     /** A WORD as one number, so that no call makes an object: its length in 3 bits, each SOUND in 4 above. */
@@ -599,7 +620,7 @@ public final class TradeWords {
         }
 
         int number(int k) {
-            return k >= 0 && k < numbers.length ? numbers[k] : 0;
+            return Row.at(numbers, k);
         }
 
         int spelled() {
@@ -633,7 +654,7 @@ public final class TradeWords {
         private boolean readJoined() {
             return readNumber(0, 0, MEANINGS - 1) && passes(',') && readNumber(1, 0, MEANINGS - 1) && passes(',')
                 && readNumber(2, 0, MEANINGS - 1)
-                && numbers[0] != numbers[1] && numbers[0] != numbers[2] && numbers[1] != numbers[2];
+                && number(0) != number(1) && number(0) != number(2) && number(1) != number(2);
         }
 
         private boolean passes(int sign) {
@@ -658,9 +679,7 @@ public final class TradeWords {
                 value = value * 10 + text.at(place) - '0';
                 place++;
             }
-            if (k >= 0 && k < numbers.length) {
-                numbers[k] = value;
-            }
+            Row.put(numbers, k, value);
             return value >= least && value <= most;
         }
 
@@ -731,10 +750,10 @@ public final class TradeWords {
             int first = item.number(0);
             int second = item.number(1);
             switch (item.letter()) {
-                case 'w': words[wordPlace(first, second)] = item.spelled(); return true;
-                case 'e': heard[heardPlace(first, second)] = item.spelled(); return true;
-                case 's': canSay[first] = item.bits(); return true;
-                case 'r': instead[Word.soundAt(item.spelled(), 0)] = Word.soundAt(item.spelled(), 1); return true;
+                case 'w': Row.put(words, wordPlace(first, second), item.spelled()); return true;
+                case 'e': Row.put(heard, heardPlace(first, second), item.spelled()); return true;
+                case 's': Row.put(canSay, first, item.bits()); return true;
+                case 'r': tellExchange(item.spelled()); return true;
                 case 'n': tellPair(traders, first, second); return true;
                 case 'k': tellPair(takes, first, second); return true;
                 case 'o': speaks = first; return true;
@@ -745,9 +764,13 @@ public final class TradeWords {
             }
         }
 
+        private void tellExchange(int pair) {
+            Row.put(instead, Word.soundAt(pair, 0), Word.soundAt(pair, 1));
+        }
+
         private static void tellPair(int[] pair, int zero, int one) {
-            pair[0] = zero;
-            pair[1] = one;
+            Row.put(pair, 0, zero);
+            Row.put(pair, 1, one);
         }
 
         private static int wordPlace(int p, int m) {
@@ -759,11 +782,11 @@ public final class TradeWords {
         }
 
         int wordOf(int p, int m) {
-            return words[wordPlace(p, m)];
+            return Row.at(words, wordPlace(p, m));
         }
 
         int heardBy(int ear, int m) {
-            return heard[heardPlace(ear, m)];
+            return Row.at(heard, heardPlace(ear, m));
         }
 
         boolean isTold(int m) {
@@ -771,15 +794,15 @@ public final class TradeWords {
         }
 
         int soundsOf(int p) {
-            return canSay[p];
+            return Row.at(canSay, p);
         }
 
         int tradersOf(int p) {
-            return traders[p];
+            return Row.at(traders, p);
         }
 
         int takesOfTen(int p) {
-            return takes[p];
+            return Row.at(takes, p);
         }
 
         int speaksOfTen() {
@@ -796,11 +819,12 @@ public final class TradeWords {
 
         /** What becomes of a SOUND in the mouth of a people; NONE: it falls out. */
         int soundSaidBy(int p, int sound) {
-            if ((canSay[p] >> sound & 1) != 0) {
+            int sounds = Row.at(canSay, p);
+            if ((sounds >> sound & 1) != 0) {
                 return sound;
             }
-            int other = instead[sound];
-            return other != NONE && (canSay[p] >> other & 1) != 0 ? other : NONE;
+            int other = Row.at(instead, sound);
+            return other != NONE && (sounds >> other & 1) != 0 ? other : NONE;
         }
 
         int saidBy(int p, int word) {
@@ -833,8 +857,8 @@ public final class TradeWords {
             if (joinedTold >= MOST_JOINED) {
                 return false;
             }
-            joinedMeaning[joinedTold] = 1 << m;
-            joinedPair[joinedTold] = pair;
+            Row.put(joinedMeaning, joinedTold, 1 << m);
+            Row.put(joinedPair, joinedTold, pair);
             joinedTold++;
             return true;
         }
@@ -859,8 +883,8 @@ public final class TradeWords {
         private int sayableBy(int set) {
             int sayable = set;
             for (int k = 0; k < joinedTold; k++) {
-                if ((joinedPair[k] & ~set) == 0) {
-                    sayable |= joinedMeaning[k];
+                if ((Row.at(joinedPair, k) & ~set) == 0) {
+                    sayable |= Row.at(joinedMeaning, k);
                 }
             }
             return sayable;
@@ -892,16 +916,16 @@ public final class TradeWords {
         }
 
         int of(int m, int p) {
-            return others[PEOPLES * m + p];
+            return Row.at(others, PEOPLES * m + p);
         }
 
         void put(int m, int x, int y) {
-            others[PEOPLES * m] = x;
-            others[PEOPLES * m + 1] = y;
+            Row.put(others, PEOPLES * m, x);
+            Row.put(others, PEOPLES * m + 1, y);
         }
 
         void change(int m, int p, int by) {
-            others[PEOPLES * m + p] += by;
+            Row.put(others, PEOPLES * m + p, of(m, p) + by);
         }
 
         int kept() {
@@ -944,15 +968,15 @@ public final class TradeWords {
             b = Math.max(1, Math.min(ofOne, MOST_TRADERS));
         }
 
-        /** In how many of a hundred a people hears and would take another WORD. */
-        void habits(int zeroSpeaks, int zeroTakes, int oneTakes) {
-            zeroHears = (TEN - zeroSpeaks) * zeroTakes;
-            oneHears = zeroSpeaks * oneTakes;
+        /** In how many of a hundred a people hears and would take another WORD: in none, if it is ALIKE. */
+        void habits(boolean alike, int zeroSpeaks, int zeroTakes, int oneTakes) {
+            zeroHears = alike ? 0 : (TEN - zeroSpeaks) * zeroTakes;
+            oneHears = alike ? 0 : zeroSpeaks * oneTakes;
         }
 
         void begin(int x, int y) {
             Arrays.fill(now, 0);
-            now[place(x, y)] = MILLION;
+            Row.add(now, place(x, y), MILLION);
         }
 
         void meet(int meetings) {
@@ -976,7 +1000,7 @@ public final class TradeWords {
         }
 
         long inStand(int x, int y) {
-            return now[place(x, y)];
+            return Row.at(now, place(x, y));
         }
 
         long allSaying(int p) {
@@ -1000,8 +1024,9 @@ public final class TradeWords {
         /** Both own WORDS meet in (a - x)(b - y) pairs, both changed ones in x y: in no others WORDS differ. */
         private void part(int x, int y) {
             int from = place(x, y);
-            long own = now[from] * ((a - x) * (b - y));
-            long changed = now[from] * (x * y);
+            long here = Row.at(now, from);
+            long own = here * ((a - x) * (b - y));
+            long changed = here * (x * y);
             if (own > 0) {
                 go(from, place(x + 1, y), own * zeroHears);
                 go(from, place(x, y + 1), own * oneHears);
@@ -1013,10 +1038,11 @@ public final class TradeWords {
         }
 
         private void go(int from, int to, long parts) {
-            long many = parts / (100L * a * b);
+            long by = 100L * a * b;
+            long many = by > 0 ? parts / by : 0;
             if (many > 0) {
-                next[from] -= many;
-                next[to] += many;
+                Row.add(next, from, -many);
+                Row.add(next, to, many);
                 moved = true;
             }
         }
